@@ -1180,17 +1180,19 @@ public final class StrictProofs {
             }
         }
 
-        /** What a node ASKS, if d is something, comes to what stands on the sheet. */
+        /** What a node ASKS, if d is something, comes to what stands on the sheet; a DEAD one stays that. */
         private void weighTogether(int node, int d, int level) {
-            if (d == 0 || level + 1 >= SHEETS) {
+            if (d == 0 || deadSheets[level] || level + 1 >= SHEETS) {
                 return;
             }
             weigh(node, d, level + 1);
-            deadSheets[level] = deadSheets[level] || deadSheets[level + 1];
+            deadSheets[level] = deadSheets[level + 1];
             int sheet = level * MOST_NAMES;
             for (int n = 0; n < program.names[f]; n++) {
                 int other = sheets[sheet + MOST_NAMES + n];
-                sheets[sheet + n] = Shapes.together(program.nameType(f, n), sheets[sheet + n], other);
+                if (other != 0) {
+                    sheets[sheet + n] = Shapes.together(program.nameType(f, n), sheets[sheet + n], other);
+                }
             }
         }
 
@@ -1219,15 +1221,13 @@ public final class StrictProofs {
 
         private void weighLet(int node, int d, int level) {
             weigh(program.two[node], d, level);
-            if (!deadSheets[level]) {
-                weighTogether(program.one[node], onSheet(level, program.three[node]), level);
-            }
+            weighTogether(program.one[node], onSheet(level, program.three[node]), level);
         }
 
         private void weighCase(int node, int d, int level) {
             weigh(program.two[node], d, level);
             int first = program.one[node];
-            if (!deadSheets[level] && program.hasNode(first)) {
+            if (program.hasNode(first)) {
                 int a = onSheet(level, program.three[node]);
                 int b = onSheet(level, program.three[node] + 1);
                 weighTogether(first, Shapes.pairDemand(program.types[first], a, b), level);
