@@ -1353,7 +1353,7 @@ public final class StrictProofs {
         }
 
         /** Makes the THING of an INPUT, and those of its parts: where the INPUTS behind them begin. */
-        int lay(Inputs inputs, int type, int from) {
+        int lay(Inputs inputs, int from) {
             if (from < 0 || from >= inputs.count) {
                 return NONE;
             }
@@ -1365,10 +1365,10 @@ public final class StrictProofs {
             if (kind != INPUT_PAIR) {
                 return from + 1;
             }
-            int second = lay(inputs, Shapes.firstOf(type), from + 1);
+            int second = lay(inputs, from + 1);
             firsts[thing] = thing + 1;
             seconds[thing] = MOST_MADE + second;
-            return lay(inputs, Shapes.secondOf(type), second);
+            return lay(inputs, second);
         }
     }
 
@@ -1413,7 +1413,7 @@ public final class StrictProofs {
             int from = 0;
             for (int p = 0; p < program.params[f]; p++) {
                 bind(0, p, MOST_MADE + from);
-                from = things.lay(inputs, program.nameType(f, p), from);
+                from = things.lay(inputs, from);
             }
         }
 

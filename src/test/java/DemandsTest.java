@@ -187,6 +187,18 @@ public final class DemandsTest {
         due("((num,num),(num,num))", "(p,(x,y))", 25, 1, 1, 4, 0);
         due("((num,num),(num,num))", "(p,(x,y))", 13, 0, 1, 2, 0);
         due("((num,num),(num,num))", "(p,(x,y))", 6, 0, 0, 1, 0);
+        // TOGETHER and EITHER of pairs in pairs, the first or the second part being one
+        String first = "(case q of (u,v) in case u of (a,b) in a)";
+        String second = "(case q of (u,v) in case u of (a,b) in b)";
+        dueNum(first + "+" + second, 0, 0, 0, 9);
+        dueNum("if x then " + first + " else " + second, 1, 0, 0, 3);
+        Calls c = Calls.of("f(r:(num,(num,num))):num=(case r of (u,v) in case v of (a,b) in a)+(case r of (u,v) in case v of (a,b) in b);"
+                + "g(r:(num,(num,num))):num=if 1 then case r of (u,v) in case v of (a,b) in a+u else case r of (u,v) in case v of (a,b) in b+u;"
+                + "h(r:(num,(num,num))):num=(case r of (u,v) in u)+(case r of (u,v) in case v of (a,b) in b);");
+        c.x.rounds();
+        Calls.due(5, () -> c.x.asks(0, 1, 0));
+        Calls.due(7, () -> c.x.asks(1, 1, 0));
+        Calls.due(8, () -> c.x.asks(2, 1, 0));
         dueNum("if x then case q of (u,v) in case u of (a,b) in a+v else case q of (u,v) in case u of (a,b) in a+b", 1, 0, 0, 7);
     }
 
@@ -251,6 +263,11 @@ public final class DemandsTest {
         Calls.due(0, () -> c.x.plant(0, 1, 0, 1));
         Calls.due(1, () -> c.x.asks(0, 1, 0));
         Calls.dueYes(false, () -> c.x.dead(0, 1));
+        Calls last = Calls.of("f(a:num,b:num,c:num,d:(num,num)):num=a;");
+        last.x.rounds();
+        Calls.due(0, () -> last.x.plant(0, 1, 3, 2));
+        Calls.due(2, () -> last.x.asks(0, 1, 3));
+        Calls.due(1, last.x::check);
         // ALL of each is not DEAD
         Calls.due(1, c.x::rounds);
         Calls.dueYes(true, () -> c.x.dead(0, 1));

@@ -310,7 +310,18 @@ public final class TextsTest {
         String elevenLets = "let a=1 in ".repeat(11);
         dueFault(6, "f(a:num,b:num,c:num,d:num):num=" + elevenLets + "case (1,2) of (e,|g) in a;");
         dueFault(3, "f(a:num,b:num,c:num,d:num):num=" + elevenLets + "case (1,2) of (e,|e) in a;");
+        dueRead(1, "f(a:num,b:num,c:num,d:num):num=" + elevenLets + "let e=1 in e;");
         // each function has its own sixteen
+        Calls all = new Calls();
+        for (int f = 0; f < 12; f++) {
+            all.tape("f" + f + "(a:num,b:num,c:num,d:num):num=" + elevenLets + "let e=" + (f < 11 ? "1" : "b*11") + " in e;");
+        }
+        Calls.due(12, all.x::read);
+        Calls.due(16, () -> all.x.function(11, 1));
+        Calls.due(2, all.x::rounds);
+        Calls.due(1, () -> all.x.asks(11, 1, 1));
+        Calls.due(1, () -> all.inputs("u 5 u u").x.run(11, 1, 100));
+        Calls.due(55, () -> all.x.result(0));
         dueRead(2, "f(a:num,b:num,c:num,d:num):num=" + twelveLets + "a;g(a:num,b:num,c:num,d:num):num=" + twelveLets + "a;");
     }
 
