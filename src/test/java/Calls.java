@@ -37,6 +37,23 @@ final class Calls {
         return calls;
     }
 
+    /** A text is read by a new object: its answer, and where the fault is. */
+    static void dueOfText(int answer, int place, String text) {
+        Calls c = new Calls().tape(text);
+        due(answer, c.x::read);
+        due(place, c.x::place);
+    }
+
+    static void dueRead(int functions, String text) {
+        dueOfText(functions, -1, text);
+    }
+
+    /** The text has | ahead of the token with the fault. */
+    static void dueFault(int number, String text) {
+        int at = text.indexOf('|');
+        dueOfText(-number, at, text.substring(0, at) + text.substring(at + 1));
+    }
+
     /** Inputs as a text: a number, u for UNDEFINED, p for a pair. */
     Calls inputs(String inputs) {
         for (String one : inputs.trim().split(" +")) {
@@ -91,7 +108,7 @@ final class Calls {
     }
 
     /** The exact class is told: what the machine throws by itself is of a class below. */
-    private static String answerOf(Call call) {
+    static String answerOf(Call call) {
         try {
             return Long.toString(call.answer());
         } catch (RuntimeException e) {

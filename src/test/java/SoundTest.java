@@ -34,11 +34,19 @@ public final class SoundTest {
 
     private int hold(long seed) {
         String text = program();
-        Calls c = new Calls();
         if (text.length() > 4000) {
             return 0;
         }
-        c.tape(text);
+        // four runs and the longest text stay under the 512 calls that an object is promised for
+        int done = 0;
+        for (int n = 0; n < 3; n++) {
+            done += holdRuns(seed, text, 4);
+        }
+        return done;
+    }
+
+    private int holdRuns(long seed, String text, int runs) {
+        Calls c = new Calls().tape(text);
         int functions = c.x.read();
         if (functions == -6) {
             return 0;
@@ -50,7 +58,7 @@ public final class SoundTest {
         c.x.rounds();
         Calls.due(-1, c.x::check);
         int done = 0;
-        for (int n = 0; n < 12; n++) {
+        for (int n = 0; n < runs; n++) {
             done += holdRun(c, text);
         }
         return done;

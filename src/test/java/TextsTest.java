@@ -22,30 +22,13 @@ public final class TextsTest {
         Calls.end();
     }
 
-    /** A text is read by a new object: its answer, and where the fault is. */
-    private static void due(int answer, int place, String text) {
-        Calls c = new Calls().tape(text);
-        Calls.due(answer, c.x::read);
-        Calls.due(place, c.x::place);
-    }
-
-    private static void dueRead(int functions, String text) {
-        due(functions, -1, text);
-    }
-
-    /** The text has | ahead of the token with the fault. */
-    private static void dueFault(int number, String text) {
-        int at = text.indexOf('|');
-        due(-number, at, text.substring(0, at) + text.substring(at + 1));
-    }
-
     /** As dueFault, of what stands for E in a function of type num with the params x, p, q. */
     private static void dueFaultInE(int number, String e) {
-        dueFault(number, "f(x:num,p:(num,num),q:((num,num),num)):num = " + e + "; g():num=1; h(a:num,b:(num,num)):(num,num)=b;");
+        Calls.dueFault(number, "f(x:num,p:(num,num),q:((num,num),num)):num = " + e + "; g():num=1; h(a:num,b:(num,num)):(num,num)=b;");
     }
 
     private static void dueE(String e) {
-        dueRead(3, "f(x:num,p:(num,num),q:((num,num),num)):num = " + e + "; g():num=1; h(a:num,b:(num,num)):(num,num)=b;");
+        Calls.dueRead(3, "f(x:num,p:(num,num),q:((num,num),num)):num = " + e + "; g():num=1; h(a:num,b:(num,num)):(num,num)=b;");
     }
 
     private static void newObject() {
@@ -177,115 +160,115 @@ public final class TextsTest {
     }
 
     private static void tokens() {
-        dueRead(1, "f():num=1;");
-        dueRead(1, "  f\n(\n) :\nnum = 1 \n;\n ");
-        dueRead(1, "abcdefgh():num=123456789;");
-        dueRead(1, "a2345678(in2:num,lets:num):num=in2+lets;");
-        dueRead(1, "z9(a:num):num=a==a;");
-        dueFault(1, "|abcdefghi():num=1;");
-        dueFault(1, "f():num=|1234567890;");
-        dueFault(1, "f():num=|1a;");
-        dueFault(1, "|1a():num=1;");
-        dueFault(1, "f():num=|000000000000000000000000000000000000000000001;");
-        dueRead(1, "f():num=000000000;");
-        dueFault(1, "f():num=|A;");
-        dueFault(1, "f(x|Y:num):num=1;");
-        dueFault(1, "f(|_:num):num=1;");
-        dueFault(1, "f()|\t:num=1;");
-        dueFault(1, "f()|\r:num=1;");
-        dueFault(1, "f():num=1|>2;");
-        dueFault(1, "f():num=1|/2;");
-        dueFault(1, "f():num=1|\u00e4;");
-        dueFault(1, "f():num=1;|#");
-        dueFault(1, "|\u0000f():num=1;");
+        Calls.dueRead(1, "f():num=1;");
+        Calls.dueRead(1, "  f\n(\n) :\nnum = 1 \n;\n ");
+        Calls.dueRead(1, "abcdefgh():num=123456789;");
+        Calls.dueRead(1, "a2345678(in2:num,lets:num):num=in2+lets;");
+        Calls.dueRead(1, "z9(a:num):num=a==a;");
+        Calls.dueFault(1, "|abcdefghi():num=1;");
+        Calls.dueFault(1, "f():num=|1234567890;");
+        Calls.dueFault(1, "f():num=|1a;");
+        Calls.dueFault(1, "|1a():num=1;");
+        Calls.dueFault(1, "f():num=|000000000000000000000000000000000000000000001;");
+        Calls.dueRead(1, "f():num=000000000;");
+        Calls.dueFault(1, "f():num=|A;");
+        Calls.dueFault(1, "f(x|Y:num):num=1;");
+        Calls.dueFault(1, "f(|_:num):num=1;");
+        Calls.dueFault(1, "f()|\t:num=1;");
+        Calls.dueFault(1, "f()|\r:num=1;");
+        Calls.dueFault(1, "f():num=1|>2;");
+        Calls.dueFault(1, "f():num=1|/2;");
+        Calls.dueFault(1, "f():num=1|\u00e4;");
+        Calls.dueFault(1, "f():num=1;|#");
+        Calls.dueFault(1, "|\u0000f():num=1;");
         // signs are as long as can be
-        dueFault(2, "f():num=1==|=2;");
-        dueFault(2, "f():num|==1;");
-        dueFault(2, "f():num= |=1;");
-        dueFault(2, "f():num=1|= =2;");
-        dueFault(2, "f():num=1<|=2;");
+        Calls.dueFault(2, "f():num=1==|=2;");
+        Calls.dueFault(2, "f():num|==1;");
+        Calls.dueFault(2, "f():num= |=1;");
+        Calls.dueFault(2, "f():num=1|= =2;");
+        Calls.dueFault(2, "f():num=1<|=2;");
         // words are no names
         for (String word : "num if then else let in case of fail".split(" ")) {
-            dueFault(2, "|" + word + "():num=1;");
-            dueFault(2, "f(|" + word + ":num):num=1;");
-            dueFault(2, "f():num=let |" + word + "=1 in 2;");
-            dueRead(1, word + "s():num=1;");
+            Calls.dueFault(2, "|" + word + "():num=1;");
+            Calls.dueFault(2, "f(|" + word + ":num):num=1;");
+            Calls.dueFault(2, "f():num=let |" + word + "=1 in 2;");
+            Calls.dueRead(1, word + "s():num=1;");
         }
     }
 
     private static void whatCanStand() {
-        dueFault(2, "|");
-        dueFault(2, "  \n |");
-        dueFault(2, "f|");
-        dueFault(2, "f  |");
-        dueFault(2, "f():num=1|");
-        dueFault(2, "f():num=1  \n|");
-        dueFault(2, "f():num=1;g|");
-        dueFault(2, "f():num=1;|;");
-        dueFault(2, "|;");
-        dueFault(2, "|1():num=1;");
-        dueFault(2, "f|:num=1;");
-        dueFault(2, "f(|,):num=1;");
-        dueFault(2, "f(a:num,|):num=1;");
-        dueFault(2, "f(a|):num=1;");
-        dueFault(2, "f(a:|a):num=1;");
-        dueFault(2, "f(a:(num|)):num=1;");
-        dueFault(2, "f(a:(num,num|,num)):num=1;");
-        dueFault(2, "f(a:(|)):num=1;");
-        dueFault(2, "f()|=1;");
-        dueFault(2, "f():num|;");
-        dueFault(2, "f():num=|;");
-        dueFault(2, "f():num=|num;");
-        dueFault(2, "f():num=(|);");
-        dueFault(2, "f():num=(1,|);");
-        dueFault(2, "f():num=(1,2|,3);");
-        dueFault(2, "f():num=f(1,|);");
-        dueFault(2, "f():num=f(|,1);");
-        dueFault(2, "f():num=f(1|;");
-        dueFault(2, "f():num=fail|;");
-        dueFault(2, "f():num=fail |1;");
-        dueFault(2, "f():num=1+2|+3;");
-        dueFault(2, "f():num=1+2|-3;");
-        dueFault(2, "f():num=1*2|*3;");
-        dueFault(2, "f():num=1<2|<3;");
-        dueFault(2, "f():num=1==2|<3;");
-        dueFault(2, "f():num=|-1;");
-        dueFault(2, "f():num=1+|;");
-        dueFault(2, "f():num=1+|if 1 then 2 else 3;");
-        dueFault(2, "f():num=1*|let a=1 in a;");
-        dueFault(2, "f():num=1<|case (1,2) of (a,b) in a;");
-        dueFault(2, "f():num=1 |1;");
-        dueFault(2, "f():num=(1)|(2);");
-        dueFault(2, "f():num=if 1 then 2|;");
-        dueFault(2, "f():num=if 1 |else 2;");
-        dueFault(2, "f():num=let a |in 1;");
-        dueFault(2, "f():num=let |(a)=1 in 1;");
-        dueFault(2, "f():num=let a=1|;");
-        dueFault(2, "f():num=let a=|in 1;");
-        dueFault(2, "f():num=case (1,2) |in a;");
-        dueFault(2, "f():num=case (1,2) of |a in a;");
-        dueFault(2, "f():num=case (1,2) of (a|) in a;");
-        dueFault(2, "f():num=case (1,2) of (|1,a) in a;");
-        dueFault(2, "f():num=case (1,2) of (a,b|,c) in a;");
-        dueRead(1, "f():num=1*2+3*4<5*6-7*8;");
-        dueRead(1, "f():num=(1+2)+(3+4);");
-        dueRead(1, "f():num=((((1))))*(if 1 then 2 else 3);");
-        dueRead(2, "f():num=g();g():num=f()+f();");
-        dueRead(1, "f(a:num):num=if if a then 0 else 1 then let b=a in b else case (a,a) of (b,c) in b;");
+        Calls.dueFault(2, "|");
+        Calls.dueFault(2, "  \n |");
+        Calls.dueFault(2, "f|");
+        Calls.dueFault(2, "f  |");
+        Calls.dueFault(2, "f():num=1|");
+        Calls.dueFault(2, "f():num=1  \n|");
+        Calls.dueFault(2, "f():num=1;g|");
+        Calls.dueFault(2, "f():num=1;|;");
+        Calls.dueFault(2, "|;");
+        Calls.dueFault(2, "|1():num=1;");
+        Calls.dueFault(2, "f|:num=1;");
+        Calls.dueFault(2, "f(|,):num=1;");
+        Calls.dueFault(2, "f(a:num,|):num=1;");
+        Calls.dueFault(2, "f(a|):num=1;");
+        Calls.dueFault(2, "f(a:|a):num=1;");
+        Calls.dueFault(2, "f(a:(num|)):num=1;");
+        Calls.dueFault(2, "f(a:(num,num|,num)):num=1;");
+        Calls.dueFault(2, "f(a:(|)):num=1;");
+        Calls.dueFault(2, "f()|=1;");
+        Calls.dueFault(2, "f():num|;");
+        Calls.dueFault(2, "f():num=|;");
+        Calls.dueFault(2, "f():num=|num;");
+        Calls.dueFault(2, "f():num=(|);");
+        Calls.dueFault(2, "f():num=(1,|);");
+        Calls.dueFault(2, "f():num=(1,2|,3);");
+        Calls.dueFault(2, "f():num=f(1,|);");
+        Calls.dueFault(2, "f():num=f(|,1);");
+        Calls.dueFault(2, "f():num=f(1|;");
+        Calls.dueFault(2, "f():num=fail|;");
+        Calls.dueFault(2, "f():num=fail |1;");
+        Calls.dueFault(2, "f():num=1+2|+3;");
+        Calls.dueFault(2, "f():num=1+2|-3;");
+        Calls.dueFault(2, "f():num=1*2|*3;");
+        Calls.dueFault(2, "f():num=1<2|<3;");
+        Calls.dueFault(2, "f():num=1==2|<3;");
+        Calls.dueFault(2, "f():num=|-1;");
+        Calls.dueFault(2, "f():num=1+|;");
+        Calls.dueFault(2, "f():num=1+|if 1 then 2 else 3;");
+        Calls.dueFault(2, "f():num=1*|let a=1 in a;");
+        Calls.dueFault(2, "f():num=1<|case (1,2) of (a,b) in a;");
+        Calls.dueFault(2, "f():num=1 |1;");
+        Calls.dueFault(2, "f():num=(1)|(2);");
+        Calls.dueFault(2, "f():num=if 1 then 2|;");
+        Calls.dueFault(2, "f():num=if 1 |else 2;");
+        Calls.dueFault(2, "f():num=let a |in 1;");
+        Calls.dueFault(2, "f():num=let |(a)=1 in 1;");
+        Calls.dueFault(2, "f():num=let a=1|;");
+        Calls.dueFault(2, "f():num=let a=|in 1;");
+        Calls.dueFault(2, "f():num=case (1,2) |in a;");
+        Calls.dueFault(2, "f():num=case (1,2) of |a in a;");
+        Calls.dueFault(2, "f():num=case (1,2) of (a|) in a;");
+        Calls.dueFault(2, "f():num=case (1,2) of (|1,a) in a;");
+        Calls.dueFault(2, "f():num=case (1,2) of (a,b|,c) in a;");
+        Calls.dueRead(1, "f():num=1*2+3*4<5*6-7*8;");
+        Calls.dueRead(1, "f():num=(1+2)+(3+4);");
+        Calls.dueRead(1, "f():num=((((1))))*(if 1 then 2 else 3);");
+        Calls.dueRead(2, "f():num=g();g():num=f()+f();");
+        Calls.dueRead(1, "f(a:num):num=if if a then 0 else 1 then let b=a in b else case (a,a) of (b,c) in b;");
     }
 
     private static void namesToldAlready() {
-        dueFault(3, "f():num=1;|f():num=1;");
-        dueFault(3, "f():num=1;g():num=1;|f(x:num):num=1;");
-        dueFault(3, "f(a:num,|a:num):num=1;");
-        dueFault(3, "f(a:num,b:num,c:num,|b:num):num=1;");
-        dueFault(3, "f():num=case (1,2) of (a,|a) in a;");
+        Calls.dueFault(3, "f():num=1;|f():num=1;");
+        Calls.dueFault(3, "f():num=1;g():num=1;|f(x:num):num=1;");
+        Calls.dueFault(3, "f(a:num,|a:num):num=1;");
+        Calls.dueFault(3, "f(a:num,b:num,c:num,|b:num):num=1;");
+        Calls.dueFault(3, "f():num=case (1,2) of (a,|a) in a;");
         // each of these is told in another place
-        dueRead(1, "f(f:num):num=f;");
-        dueRead(2, "f(a:num):num=a;g(a:num):num=a;");
-        dueRead(1, "f(a:num):num=let a=a in let a=a in a;");
-        dueRead(1, "f(a:num):num=case (a,a) of (a,b) in case (a,b) of (b,a) in a+b;");
-        dueRead(1, "f(a:num):num=let f=1 in f(f);");
+        Calls.dueRead(1, "f(f:num):num=f;");
+        Calls.dueRead(2, "f(a:num):num=a;g(a:num):num=a;");
+        Calls.dueRead(1, "f(a:num):num=let a=a in let a=a in a;");
+        Calls.dueRead(1, "f(a:num):num=case (a,a) of (a,b) in case (a,b) of (b,a) in a+b;");
+        Calls.dueRead(1, "f(a:num):num=let f=1 in f(f);");
     }
 
     private static void tooMany() {
@@ -293,24 +276,24 @@ public final class TextsTest {
         for (int i = 0; i < 12; i++) {
             twelve.append("f").append(i).append("():num=1;");
         }
-        dueRead(12, twelve.toString());
-        dueFault(6, twelve + "|g():num=1;");
-        dueFault(3, twelve + "|f3():num=1;");
-        dueFault(2, twelve + "|1");
-        dueFault(1, twelve + "|#");
-        dueFault(6, twelve + "|g");
-        dueRead(1, "f(a:num,b:num,c:num,d:num):num=1;");
-        dueFault(6, "f(a:num,b:num,c:num,d:num,|e:num):num=1;");
-        dueFault(3, "f(a:num,b:num,c:num,d:num,|a:num):num=1;");
-        dueFault(2, "f(a:num,b:num,c:num,d:num,|):num=1;");
+        Calls.dueRead(12, twelve.toString());
+        Calls.dueFault(6, twelve + "|g():num=1;");
+        Calls.dueFault(3, twelve + "|f3():num=1;");
+        Calls.dueFault(2, twelve + "|1");
+        Calls.dueFault(1, twelve + "|#");
+        Calls.dueFault(6, twelve + "|g");
+        Calls.dueRead(1, "f(a:num,b:num,c:num,d:num):num=1;");
+        Calls.dueFault(6, "f(a:num,b:num,c:num,d:num,|e:num):num=1;");
+        Calls.dueFault(3, "f(a:num,b:num,c:num,d:num,|a:num):num=1;");
+        Calls.dueFault(2, "f(a:num,b:num,c:num,d:num,|):num=1;");
         String twelveLets = "let a=1 in ".repeat(12);
-        dueRead(1, "f(a:num,b:num,c:num,d:num):num=" + twelveLets + "a;");
-        dueFault(6, "f(a:num,b:num,c:num,d:num):num=" + twelveLets + "let |e=1 in a;");
-        dueFault(6, "f(a:num,b:num,c:num,d:num):num=" + twelveLets + "case (1,2) of (|e,e) in a;");
+        Calls.dueRead(1, "f(a:num,b:num,c:num,d:num):num=" + twelveLets + "a;");
+        Calls.dueFault(6, "f(a:num,b:num,c:num,d:num):num=" + twelveLets + "let |e=1 in a;");
+        Calls.dueFault(6, "f(a:num,b:num,c:num,d:num):num=" + twelveLets + "case (1,2) of (|e,e) in a;");
         String elevenLets = "let a=1 in ".repeat(11);
-        dueFault(6, "f(a:num,b:num,c:num,d:num):num=" + elevenLets + "case (1,2) of (e,|g) in a;");
-        dueFault(3, "f(a:num,b:num,c:num,d:num):num=" + elevenLets + "case (1,2) of (e,|e) in a;");
-        dueRead(1, "f(a:num,b:num,c:num,d:num):num=" + elevenLets + "let e=1 in e;");
+        Calls.dueFault(6, "f(a:num,b:num,c:num,d:num):num=" + elevenLets + "case (1,2) of (e,|g) in a;");
+        Calls.dueFault(3, "f(a:num,b:num,c:num,d:num):num=" + elevenLets + "case (1,2) of (e,|e) in a;");
+        Calls.dueRead(1, "f(a:num,b:num,c:num,d:num):num=" + elevenLets + "let e=1 in e;");
         // each function has its own sixteen
         Calls all = new Calls();
         for (int f = 0; f < 12; f++) {
@@ -322,7 +305,7 @@ public final class TextsTest {
         Calls.due(1, () -> all.x.asks(11, 1, 1));
         Calls.due(1, () -> all.inputs("u 5 u u").x.run(11, 1, 100));
         Calls.due(55, () -> all.x.result(0));
-        dueRead(2, "f(a:num,b:num,c:num,d:num):num=" + twelveLets + "a;g(a:num,b:num,c:num,d:num):num=" + twelveLets + "a;");
+        Calls.dueRead(2, "f(a:num,b:num,c:num,d:num):num=" + twelveLets + "a;g(a:num,b:num,c:num,d:num):num=" + twelveLets + "a;");
     }
 
     /** A sum of so many ones: 4 n - 3 tokens. */
@@ -332,59 +315,59 @@ public final class TextsTest {
 
     private static void tooManyTokens() {
         String thousand = "f():num=" + ones(249) + ";";
-        dueRead(1, thousand);
-        dueFault(6, thousand + "|g():num=1;");
-        dueFault(3, thousand + "|f():num=1;");
-        dueFault(2, thousand + "|;");
-        dueFault(1, thousand + "|#");
-        dueFault(6, thousand + "|g");
-        dueFault(6, "f():num=(" + ones(249) + "|);");
-        dueFault(6, "f():num=" + ones(249) + "+|1;");
-        dueFault(6, "f():num=" + ones(249) + "+|z;");
-        dueFault(2, "f():num=" + ones(249) + "+|;");
-        dueFault(1, "f():num=" + ones(249) + "+|#");
-        dueFault(2, "f():num=" + ones(249) + "+|");
-        dueFault(6, "f():num=(" + ones(249).replaceFirst("1", "z") + "|);");
-        dueFault(6, thousand + "|g():num=1; # # #");
+        Calls.dueRead(1, thousand);
+        Calls.dueFault(6, thousand + "|g():num=1;");
+        Calls.dueFault(3, thousand + "|f():num=1;");
+        Calls.dueFault(2, thousand + "|;");
+        Calls.dueFault(1, thousand + "|#");
+        Calls.dueFault(6, thousand + "|g");
+        Calls.dueFault(6, "f():num=(" + ones(249) + "|);");
+        Calls.dueFault(6, "f():num=" + ones(249) + "+|1;");
+        Calls.dueFault(6, "f():num=" + ones(249) + "+|z;");
+        Calls.dueFault(2, "f():num=" + ones(249) + "+|;");
+        Calls.dueFault(1, "f():num=" + ones(249) + "+|#");
+        Calls.dueFault(2, "f():num=" + ones(249) + "+|");
+        Calls.dueFault(6, "f():num=(" + ones(249).replaceFirst("1", "z") + "|);");
+        Calls.dueFault(6, thousand + "|g():num=1; # # #");
     }
 
     private static void tooDeep() {
         String open = "(".repeat(19);
         String close = ")".repeat(19);
-        dueRead(1, "f():num=" + open + "1" + close + ";");
-        dueFault(6, "f():num=" + open + "(|1)" + close + ";");
-        dueFault(6, "f():num=" + open + "(|(1))" + close + ";");
-        dueFault(2, "f():num=" + open + "(|)" + close + ";");
-        dueFault(1, "f():num=" + open + "(|#)" + close + ";");
-        dueFault(2, "f():num=" + open + "(|");
-        dueRead(1, "f():num=" + open + "f()" + close + ";");
-        dueRead(1, "f():num=" + open + "1*2+3*4<5*6+7*8" + close + ";");
-        dueFault(6, "f():num=" + open + "f(|1)" + close + ";");
-        dueFault(6, "f():num=" + open + "let a=|1 in a" + close + ";");
-        dueFault(6, "f():num=" + open + "if |1 then 2 else 3" + close + ";");
-        dueFault(6, "f():num=" + open + "case |p of (a,b) in 1" + close + ";");
-        dueRead(1, "f():num=" + "if 1 then 1 else ".repeat(19) + "1;");
-        dueFault(6, "f():num=" + "if 1 then 1 else ".repeat(19) + "if |1 then 1 else 1;");
+        Calls.dueRead(1, "f():num=" + open + "1" + close + ";");
+        Calls.dueFault(6, "f():num=" + open + "(|1)" + close + ";");
+        Calls.dueFault(6, "f():num=" + open + "(|(1))" + close + ";");
+        Calls.dueFault(2, "f():num=" + open + "(|)" + close + ";");
+        Calls.dueFault(1, "f():num=" + open + "(|#)" + close + ";");
+        Calls.dueFault(2, "f():num=" + open + "(|");
+        Calls.dueRead(1, "f():num=" + open + "f()" + close + ";");
+        Calls.dueRead(1, "f():num=" + open + "1*2+3*4<5*6+7*8" + close + ";");
+        Calls.dueFault(6, "f():num=" + open + "f(|1)" + close + ";");
+        Calls.dueFault(6, "f():num=" + open + "let a=|1 in a" + close + ";");
+        Calls.dueFault(6, "f():num=" + open + "if |1 then 2 else 3" + close + ";");
+        Calls.dueFault(6, "f():num=" + open + "case |p of (a,b) in 1" + close + ";");
+        Calls.dueRead(1, "f():num=" + "if 1 then 1 else ".repeat(19) + "1;");
+        Calls.dueFault(6, "f():num=" + "if 1 then 1 else ".repeat(19) + "if |1 then 1 else 1;");
         // as deep as EXPRESSIONS can be, through signs and calls
         String deep = "1<1+1*f(".repeat(19);
-        dueRead(1, "f(a:num):num=" + deep + "1<1+1*a" + close + ";");
-        dueFault(6, "f(a:num):num=" + deep + "1<1+1*f(|a)" + close + ";");
-        dueRead(1, "f(a:((num,num),(num,num))):((num,num),(num,num))=a;");
-        dueFault(6, "f():(num,(num,|(num,num)))=1;");
-        dueFault(6, "f(a:((|(num,num),num),num)):num=1;");
-        dueFault(6, "f():num=fail ((num,|(num,num)),num);");
-        dueFault(2, "f():(num,(num,|1))=1;");
+        Calls.dueRead(1, "f(a:num):num=" + deep + "1<1+1*a" + close + ";");
+        Calls.dueFault(6, "f(a:num):num=" + deep + "1<1+1*f(|a)" + close + ";");
+        Calls.dueRead(1, "f(a:((num,num),(num,num))):((num,num),(num,num))=a;");
+        Calls.dueFault(6, "f():(num,(num,|(num,num)))=1;");
+        Calls.dueFault(6, "f(a:((|(num,num),num),num)):num=1;");
+        Calls.dueFault(6, "f():num=fail ((num,|(num,num)),num);");
+        Calls.dueFault(2, "f():(num,(num,|1))=1;");
     }
 
     private static void leastFaultOfAToken() {
         // token by token: an earlier one's fault is told, whichever its number
-        dueFault(6, "f(a:num,b:num,c:num,d:num,|e#");
-        dueFault(3, "f(a:num,|a#");
-        dueFault(2, "f(a |b#");
+        Calls.dueFault(6, "f(a:num,b:num,c:num,d:num,|e#");
+        Calls.dueFault(3, "f(a:num,|a#");
+        Calls.dueFault(2, "f(a |b#");
         // those of texts as wholes come behind all of these
-        dueFault(2, "f():num=z+(1,2);g():num|;");
-        dueFault(3, "f():num=z;|f():num=1;");
-        dueFault(1, "f():num=f(1,2);|#");
+        Calls.dueFault(2, "f():num=z+(1,2);g():num|;");
+        Calls.dueFault(3, "f():num=z;|f():num=1;");
+        Calls.dueFault(1, "f():num=f(1,2);|#");
     }
 
     private static void namesNotThere() {
@@ -402,8 +385,8 @@ public final class TextsTest {
         dueFaultInE(4, "case h(1,p) of (a,b) in |c");
         dueFaultInE(4, "((|z))");
         dueE("let y=x in case p of (a,b) in a+(b*y)");
-        dueFault(4, "f(x:num):num=x;g(y:num):num=|x;");
-        dueFault(4, "f():num=1;g():num=|z;h():num=w;");
+        Calls.dueFault(4, "f(x:num):num=x;g(y:num):num=|x;");
+        Calls.dueFault(4, "f():num=1;g():num=|z;h():num=w;");
         // a name that was hidden stands again
         dueE("(let p=1 in p)+(case p of (a,b) in a)");
         dueE("(case q of (x,p) in p)+x");
@@ -436,12 +419,12 @@ public final class TextsTest {
         dueFaultInE(5, "let a=h(1,(|p,1)) in 1");
         dueE("let a=h(1,(1,2)) in case h(x,a) of (c,d) in c");
         // a sign's first token is that of its left side, ( E )'s that of E
-        dueFault(5, "f():(num,num)=|1+2;");
-        dueFault(5, "f():(num,num)=(|1)+2;");
-        dueFault(5, "f():(num,num)=((|1*2)+3)<4;");
-        dueFault(5, "f():(num,num)=(if 1 then |(1,2) else (1,2))+(1,2);");
-        dueFault(5, "f():(num,num)=(|if 1 then 1 else 2)+1;");
-        dueFault(5, "f():(num,num)=|fail num;");
+        Calls.dueFault(5, "f():(num,num)=|1+2;");
+        Calls.dueFault(5, "f():(num,num)=(|1)+2;");
+        Calls.dueFault(5, "f():(num,num)=((|1*2)+3)<4;");
+        Calls.dueFault(5, "f():(num,num)=(if 1 then |(1,2) else (1,2))+(1,2);");
+        Calls.dueFault(5, "f():(num,num)=(|if 1 then 1 else 2)+1;");
+        Calls.dueFault(5, "f():(num,num)=|fail num;");
     }
 
     private static void wantedOfPairs() {
@@ -471,12 +454,12 @@ public final class TextsTest {
         dueFaultInE(5, "|(q,1)");
         dueE("let a=(p,p) in case a of (b,c) in 1");
         dueE("case ((1,2),(3,4)) of (b,c) in case b of (d,e) in d");
-        dueRead(1, "f():((num,num),(num,num))=((1,2),(3,4));");
-        dueFault(5, "f():((num,num),(num,num))=((1,2),(3,|(4,5)));");
-        dueFault(5, "f():((num,num),(num,num))=((1,2),|3);");
-        dueFault(5, "f():((num,num),num)=(|1,(2,3));");
-        dueFault(5, "f():(num,(num,num))=(|(1,2),3);");
-        dueRead(1, "f():(num,(num,num))=let a=1 in if a then (a,(a,a)) else fail (num,(num,num));");
+        Calls.dueRead(1, "f():((num,num),(num,num))=((1,2),(3,4));");
+        Calls.dueFault(5, "f():((num,num),(num,num))=((1,2),(3,|(4,5)));");
+        Calls.dueFault(5, "f():((num,num),(num,num))=((1,2),|3);");
+        Calls.dueFault(5, "f():((num,num),num)=(|1,(2,3));");
+        Calls.dueFault(5, "f():(num,(num,num))=(|(1,2),3);");
+        Calls.dueRead(1, "f():(num,(num,num))=let a=1 in if a then (a,(a,a)) else fail (num,(num,num));");
     }
 
     private static void orderOfTypeFaults() {
@@ -494,11 +477,11 @@ public final class TextsTest {
         dueFaultInE(4, "case |z of (a,b) in p");
         dueFaultInE(4, "|k(p+1)");
         dueFaultInE(5, "|g(z)");
-        dueFault(5, "f():num=|(1,2);g():num=z;");
-        dueFault(4, "f():num=|z;g():num=(1,2);");
+        Calls.dueFault(5, "f():num=|(1,2);g():num=z;");
+        Calls.dueFault(4, "f():num=|z;g():num=(1,2);");
         // a function may be used ahead of its text
-        dueRead(2, "f():(num,num)=g(1);g(a:num):(num,num)=(a,a);");
-        dueFault(5, "f():num=|g(1);g(a:num):(num,num)=(a,a);");
+        Calls.dueRead(2, "f():(num,num)=g(1);g(a:num):(num,num)=(a,a);");
+        Calls.dueFault(5, "f():num=|g(1);g(a:num):(num,num)=(a,a);");
     }
 
     private static void functions() {
