@@ -1,6 +1,7 @@
 /**
  * Each refused call throws what its promise names (the one named first, where several could be) and changes
- * nothing: an object that got it and a twin that did not show the same by all that can be asked of them.
+ * nothing: an object that got it and a twin that did not show the same by all that can be asked of them. So it
+ * is with texts that have a FAULT.
  */
 public final class RefusedTest {
     interface State {
@@ -34,6 +35,7 @@ public final class RefusedTest {
         resultsThatAreNone();
         resultsBeforeAndBesideARun();
         needed();
+        textsWithFaults();
         Calls.end();
     }
 
@@ -403,6 +405,36 @@ public final class RefusedTest {
         Calls c = new Calls();
         second.bring(c);
         Calls.due(6, () -> c.x.result(2));
+    }
+
+    /**
+     * The first sign of each is its FAULT's number. Nothing of the text stays but the place: the twin reads one
+     * that has nothing but a wrong byte there.
+     */
+    private static void textsWithFaults() {
+        String[] faults = {
+            "2|", "1|#", "2  \n|", "2f():num=1;g|", "2f():num=1;|;", "3f():num=1;g(x:num):num=x;|f():num=1;", "3f(a:num,|a:num):num=1;",
+            "4f(x:num,p:num):num=x;g():num=|z;", "4f():num=|k();", "5f(x:num):(num,num)=(x,x);g():num=|f(1);", "5f():num=|f(1);",
+            "6f(a:num,b:num,c:num,d:num,|e:num):num=1;", "6f():num=" + "(".repeat(20) + "|1", "6f():(num,(num,|(num,num)))=1;",
+        };
+        State[] states = {RefusedTest::madeNew, RefusedTest::faulty, RefusedTest::readOnly, RefusedTest::worked, RefusedTest::ranUndefined,
+            RefusedTest::allInputs};
+        for (String fault : faults) {
+            int place = fault.indexOf('|') - 1;
+            for (State s : states) {
+                Calls touched = new Calls();
+                s.bring(touched);
+                touched.x.cut(0);
+                touched.tape(fault.substring(1, place + 1) + fault.substring(place + 2));
+                Calls.due('0' - fault.charAt(0), touched.x::read);
+                Calls twin = new Calls();
+                s.bring(twin);
+                twin.x.cut(0);
+                twin.tape(" ".repeat(place) + "#").x.read();
+                Calls.due(place, touched.x::place);
+                Calls.dueText(shown(twin.x), shown(touched.x));
+            }
+        }
     }
 
     private static void needed() {
