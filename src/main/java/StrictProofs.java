@@ -888,7 +888,8 @@ public final class StrictProofs {
 
         void judge(Program of) {
             program = of;
-            for (f = 0; f < program.functions && fault.number == 0; f++) {
+            for (int each = 0; each < program.functions && fault.number == 0; each++) {
+                f = each;
                 scoped = 0;
                 for (int p = 0; p < program.params[f]; p++) {
                     open(p);
@@ -1066,7 +1067,8 @@ public final class StrictProofs {
         }
 
         int firstTooMuch() {
-            for (f = 0; f < program.functions; f++) {
+            for (int each = 0; each < program.functions; each++) {
+                f = each;
                 int count = Shapes.demandsOf(program.answers[f]);
                 for (int d = 1; d < count; d++) {
                     weigh(program.bodies[f], d, 0);
@@ -1086,7 +1088,8 @@ public final class StrictProofs {
         }
 
         private void killAll() {
-            for (f = 0; f < program.functions; f++) {
+            for (int each = 0; each < program.functions; each++) {
+                f = each;
                 int count = Shapes.demandsOf(program.answers[f]);
                 for (int d = 1; d < count; d++) {
                     deadSheets[0] = true;
@@ -1097,7 +1100,8 @@ public final class StrictProofs {
 
         private boolean changesInRound() {
             boolean changes = false;
-            for (f = 0; f < program.functions; f++) {
+            for (int each = 0; each < program.functions; each++) {
+                f = each;
                 int count = Shapes.demandsOf(program.answers[f]);
                 for (int d = 1; d < count; d++) {
                     weigh(program.bodies[f], d, 0);
