@@ -22,6 +22,11 @@ public final class ModelTest {
         "f0(p0,zz)", "f1(1,2)", "f0(p0,1,fail num)", "(let a=(1,2)in a)", "(if p0 then p1 else zz)",
         "(case p0 of(a,b)in a)", "(if 1 then(1,2)else 3)", "(let n3=n3 in p0)", "(1<2)"
     };
+    private static final String[] AROUND = {
+        "(@)", "(@)", "(@,1)", "(p0,@)", "f0(@)", "f0(@,2)", "let a=@ in 1", "let a=@ in a", "let b=p0 in @",
+        "case @ of (a,b) in a", "case (1,2) of (c,d) in @", "if @ then 1 else p0", "if 1 then @ else p0",
+        "if p0 then 1 else @", "1+(@)", "(@)*2<p0"
+    };
     // An object is promised for 512 calls; a text and what is asked of it in one go stay under half of that.
     private static final int MOST_CALLS = 512;
     private static final int CALLS_OF_ONE_GO = 256;
@@ -123,8 +128,20 @@ public final class ModelTest {
             text = text.substring(0, at) + (char) random.nextInt(256) + text.substring(at + 1);
         } else if (how == 18) {
             text = text.substring(0, random.nextInt(text.length()));
+        } else {
+            text = text + nested();
         }
         return text.length() > 4100 ? text.substring(0, 4100) : text;
+    }
+
+    /** A FUNCTION of some twenty E's, one within the other. */
+    private String nested() {
+        String e = "@";
+        for (int n = 15 + random.nextInt(8); n > 0; n--) {
+            String around = AROUND[random.nextInt(random.nextBoolean() ? 2 : AROUND.length)];
+            e = e.replace("@", around);
+        }
+        return "deep(p0:num):num=" + e.replace("@", random.nextBoolean() ? "p0" : "(1,p0)") + ";";
     }
 
     /** The text once more, a blank here and there, and so many of its tokens changed. */
